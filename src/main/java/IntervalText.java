@@ -505,7 +505,7 @@ public final class IntervalText {
         final Natural radius;
         boolean empty, openBelow, openAbove;
         private int at;
-        private int digits, fraction, exponent;
+        private int fraction, exponent;
         private boolean hasPoint;
 
         Scanner(Row itsTape, Arithmetic itsArithmetic) {
@@ -658,7 +658,7 @@ public final class IntervalText {
 
         /** Whether there is a digit at least. */
         private boolean takeDigits(Natural into, int base, boolean pointMayBe) {
-            digits = 0;
+            int count = 0;
             fraction = 0;
             hasPoint = false;
             into.set(0);
@@ -669,7 +669,7 @@ public final class IntervalText {
                 if (peek() == '.' && pointMayBe && !hasPoint) {
                     hasPoint = true;
                 } else if (digit < base) {
-                    digits++;
+                    count++;
                     fraction += hasPoint ? 1 : 0;
                     factor *= base;
                     part = part * base + digit;
@@ -684,7 +684,7 @@ public final class IntervalText {
                 }
             }
             into.timesPlus(factor, part);
-            return digits > 0;
+            return count > 0;
         }
 
         /** Whether an exponent stands here, or nothing does that begins one and it may be missing. */

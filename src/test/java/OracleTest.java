@@ -4,7 +4,7 @@ import java.util.Random;
 public final class OracleTest {
     private static final String[] MARKS = {"", "", "", "", "_com", "_dac", "_def", "_trv", "_ill", "_COM"};
     private static final String[] SIGNS = {"", "", "-", "+"};
-    private static final String LETTERS = "[],?/ \t.eExXpP+-_0123456789uUdDinfatycomrve\0\n\u00ff";
+    private static final String LETTERS = "[],?/ \t.eExXpP+-_0123456789uUdDinfatycomrve\0\n\u0080\u00e9";
 
     private final Random random;
     private final Check check = new Check();
@@ -95,8 +95,8 @@ public final class OracleTest {
         switch (random.nextInt(10)) {
             case 0: return "[" + blanks() + pick(new String[] {"", "empty", "entire", "nai", ","}) + blanks() + "]";
             case 1: return "[" + blanks() + number() + blanks() + "]";
-            case 2: return "[" + blanks() + pick(new String[] {"-inf", "-infinity", "", "inf", number()}) + blanks() + ","
-                + blanks() + pick(new String[] {"inf", "+infinity", "", "-inf", number()}) + blanks() + "]";
+            case 2: return "[" + blanks() + pick(new String[] {"-inf", "-infinity", "", "inf", number()}) + blanks()
+                + "," + blanks() + pick(new String[] {"inf", "+infinity", "", "-inf", number()}) + blanks() + "]";
             case 3: case 4: case 5: return spread();
             case 6: return near();
             default: return "[" + blanks() + number() + blanks() + "," + blanks() + number() + blanks() + "]";
@@ -116,7 +116,8 @@ public final class OracleTest {
             value = 1;
         }
         String exact = new java.math.BigDecimal(value).toPlainString();
-        String more = random.nextInt(3) == 0 ? (exact.contains(".") ? "" : ".") + "0".repeat(random.nextInt(9)) + "1" : "";
+        String point = exact.contains(".") ? "" : ".";
+        String more = random.nextInt(3) == 0 ? point + "0".repeat(random.nextInt(9)) + "1" : "";
         String other = Double.toHexString(value);
         if (exact.length() > 330) {
             return "[" + other + "]";

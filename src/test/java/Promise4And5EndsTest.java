@@ -82,6 +82,13 @@ public final class Promise4And5EndsTest {
         check.reads("2.5??ue-1", Check.DAC, 0.25, INF);
         check.reads("0.1??d_trv", Check.TRV, -INF, 0.1);
         check.reads("3.56?1", Check.COM, 4615176308138600038L, 4615221344134873744L);
+        // Around 2 ^ 30 and 2 ^ 60, where a long number's next limb begins.
+        check.reads("1073741823?1", Check.COM, 1073741822.0, 1073741824.0);
+        check.reads("-1073741823?1", Check.COM, -1073741824.0, -1073741822.0);
+        check.reads("1?1073741823", Check.COM, -1073741822.0, 1073741824.0);
+        check.reads("1073741824?1", Check.COM, 1073741823.0, 1073741825.0);
+        check.reads("1152921504606846975?1u", Check.COM, down(0x1p60), 0x1p60);
+        check.reads("1152921504606846976?1152921504606846976", Check.COM, 0.0, 0x1p61);
         check.reads("1?e999", Check.DAC, MAX, INF);
         check.reads("1?e-999", Check.COM, 0.0, MIN);
         check.reads("1?2e-999", Check.COM, -MIN, MIN);
