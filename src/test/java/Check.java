@@ -10,24 +10,26 @@ final class Check {
     static final int COM = 4, DAC = 3, DEF = 2, TRV = 1, ILL = 0;
 
     private int asked, wrong;
+    private String sentence = "";
 
     static long bits(double value) {
         return Double.doubleToRawLongBits(value);
     }
 
+    /** What is asked from here on tests these words of the document, which the promises named lean on. */
+    void sentence(String promises, String words) {
+        sentence = "promise " + promises + ", '" + words + "': ";
+    }
+
     void due(String what, long got, long want) {
-        asked++;
-        if (got != want) {
-            wrong++;
-            System.out.println(what + " answered " + got + ", due is " + want);
-        }
+        due(what, Long.toString(got), Long.toString(want));
     }
 
     void due(String what, String got, String want) {
         asked++;
         if (!got.equals(want)) {
             wrong++;
-            System.out.println(what + " answered " + got + ", due is " + want);
+            System.out.println(sentence + what + " answered " + got + ", due is " + want);
         }
     }
 
@@ -74,6 +76,11 @@ final class Check {
 
     void reads(String text, int mark, double low, double high) {
         reads(text, mark, bits(low), bits(high));
+    }
+
+    void readsAsDue(String text) {
+        Oracle due = new Oracle(text);
+        reads(text, due.mark, due.low, due.high);
     }
 
     void isIll(String text) {
