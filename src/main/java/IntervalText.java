@@ -259,7 +259,7 @@ public final class IntervalText {
                 limbs[i] = (int) (carry & LIMB_MASK);
                 carry >>= LIMB_BITS;
             }
-            if (carry > 0 && size < LIMBS) {
+            if (carry > 0 && size >= 0 && size < LIMBS) {
                 limbs[size] = (int) carry;
                 size++;
             }
@@ -338,7 +338,7 @@ public final class IntervalText {
         }
 
         private void trim(int longest) {
-            size = Math.min(longest, LIMBS);
+            size = longest < LIMBS ? longest : LIMBS;
             while (size > 0 && limbs[size - 1] == 0) {
                 size--;
             }
@@ -446,7 +446,7 @@ public final class IntervalText {
                 int top = right.size + up;
                 long head = ((long) left.limb(top) << LIMB_BITS) + left.limb(top - 1);
                 // Never too high, since the divisor is below its top limb + 1; too low by 3 at most.
-                long times = head / aboveTop;
+                long times = aboveTop > 0 ? head / aboveTop : 0;
                 left.minusTimes(right, times, up);
                 for (int i = 0; i < 3 && left.compareWith(right, up) >= 0; i++) {
                     left.minusTimes(right, 1, up);
